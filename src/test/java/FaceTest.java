@@ -100,11 +100,6 @@ public final class FaceTest {
             Matcher found = Pattern.compile(word).matcher(code);
             Due.is("the source has no " + word, found.find(), false);
         }
-        int longest = 0;
-        for (String method : code.split("\n {4,8}}\n")) {
-            longest = Math.max(longest, method.split("\n").length);
-        }
-        Due.is("methods are short: " + longest, longest <= 100, true);
         for (char sign : source.toCharArray()) {
             Due.is("a sign of the source is 1 to 127", sign >= 1 && sign <= 127, true);
         }
