@@ -87,6 +87,12 @@ public final class FindTest {
         }
         x.choose(1, 31, 0, 0, 0);
         Due.is("one has none CHOSEN", x.rate(0, 1, 90, 160, 0), -1);
+        x.choose(63, 31, 0, 0, 0);
+        x.tell(1, 0, 101);
+        Due.is("101 to 100, just within e", x.rate(1, 0, 90, 160, 10), 101);
+        Due.is("101 to 100, just beyond e", x.rate(1, 0, 90, 160, 9), -1);
+        Due.is("100 to 101, within e of 101", x.rate(0, 1, 90, 160, 10), 101);
+        Due.is("100 to 101, beyond e of 101", x.rate(0, 1, 90, 160, 9), -1);
         StonesOfWeight y = new StonesOfWeight();
         y.stone(120, 0, 4);
         y.stone(110, 0, 5);
@@ -159,6 +165,13 @@ public final class FindTest {
         }
         // 1000000000 / 4096 is 244140.625; halved and cut twelve times: 244140.
         owners(many, 4, 100, 12, 12, 244140);
+        StonesOfWeight all = new StonesOfWeight();
+        for (int s = 0; s < 32; s++) {
+            all.stone(s == 0 ? 100 : 95, 0, 0);
+            all.tell(s, 8, 4);
+        }
+        // 33 / 2 ^ 32 would be 7 billionths; cut again and again, it is 6.
+        owners(all, 4, 100, 32, 31, 6);
     }
 
     private static void heap() {
@@ -219,6 +232,25 @@ public final class FindTest {
         }
         x.tell(0, 9, 0);
         Due.is("not CHOSEN", x.worth(0, 90, 120), -1);
+        worthBesideHeavier();
+    }
+
+    /** A mark far off holds every UNIT alike, so the greater is best of those. */
+    private static void worthBesideHeavier() {
+        StonesOfWeight x = Due.stones(200);
+        Due.wear(x, "more 0 to 500;");
+        // 200 by 40, 50 (alike, 50), or 300 by 30, 50 and, out of reach, 60: 50 both times.
+        Due.is("alike", x.worth(0, 30, 55), 0);
+        // Not 50: 40 or 30.
+        Due.is("40 or 30", x.worth(0, 30, 49), 10);
+        x.stone(120, 0, 1);
+        Due.wear(x, "if town=0:more 0 to 500;");
+        // 200 and 120 by 40; 300 by 40 is off by 20, by 30 not at all.
+        Due.is("40 or 30, with 120", x.worth(0, 30, 45), 10);
+        StonesOfWeight far = Due.stones(20000);
+        far.tell(0, 7, 1);
+        Due.wear(far, "more 0 to 500;");
+        Due.is("far from its MARK by both", far.worth(0, 30, 45), 0);
     }
 
     private static void anew() {

@@ -4,6 +4,7 @@ public final class ImageTest {
         count();
         wrongImages();
         allComesBack();
+        fullImage();
         imagesAreApart();
         Due.finish("ImageTest");
     }
@@ -103,6 +104,43 @@ public final class ImageTest {
         Due.proof(x, "if many>0:against;sure;");
         Due.tape(x, "xxxxxxxxxxxxxxxxxxxxxxxxx");
         x.choose(1, 1, 0, 0, 2);
+    }
+
+    private static void fullImage() {
+        StonesOfWeight x = new StonesOfWeight();
+        for (int s = 0; s < 32; s++) {
+            x.stone(100 + s, s % 5, s % 6);
+            x.tell(s, 10, s % 9);
+        }
+        StringBuilder text = new StringBuilder();
+        for (int line = 0; line < 16; line++) {
+            text.append("if not town=").append(line % 6).append(":more ").append(line).append(";");
+        }
+        Due.wear(x, text.toString());
+        int[][] spans = new int[32][2];
+        for (int s = 0; s < 32; s++) {
+            spans[s][0] = x.span(s, 0);
+            spans[s][1] = x.span(s, 1);
+        }
+        x.image(2);
+        for (int s = 0; s < 32; s++) {
+            x.tell(s, 0, 7000 + s);
+            x.tell(s, 10, 1);
+            x.tell(s, 1, 1);
+        }
+        Due.wear(x, "if chips>3 and mark>3 and owner>3 and age>9:less 7 to 8;".repeat(8));
+        x.again(2);
+        for (int s = 0; s < 32; s++) {
+            Due.is("WEIGHT of " + s, x.fact(s, 0), 100 + s);
+            Due.is("STUFF of " + s, x.fact(s, 1), s % 5);
+            Due.is("SET of " + s, x.fact(s, 10), s % 9);
+            Due.is("SPAN of " + s, x.span(s, 0) == spans[s][0] && x.span(s, 1) == spans[s][1], true);
+            Due.is("LEAD of " + s + " is judged by its WEIGHT", x.tell(s, 3, 100 + s), false);
+        }
+        x.view(0);
+        Due.is("STUFF as it was listed", x.fact(31, 1), 1);
+        Due.is("TOWN as it was listed", x.fact(31, 4), 1);
+        Due.is("the last ENTRY", x.entry(63, 3), 4);
     }
 
     private static void imagesAreApart() {

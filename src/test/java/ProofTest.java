@@ -28,6 +28,13 @@ public final class ProofTest {
         Due.is("one is CHOSEN", x.chance(50), 260000000);
         x.tell(1, 9, 0);
         Due.is("none is CHOSEN", x.chance(50), 1000000000);
+        StonesOfWeight all = new StonesOfWeight();
+        for (int s = 0; s < 32; s++) {
+            all.stone(700, 0, 0);
+        }
+        // By WIDE 65 and more every place of 100 is NEAR: all of it moves on, STONE by STONE, to the last.
+        Due.wear(all, "more 0 to 200;");
+        Due.is("32 of 32", all.chance(100), 1000000000);
         Due.is("no such UNIT", x.chance(9), -1);
         Due.is("no such UNIT", x.chance(2001), -1);
         Due.is("no such UNIT", x.chance(0), -1);
@@ -98,6 +105,8 @@ public final class ProofTest {
         exactly(x, "tried", 6487, 50, 40, 60);
         exactly(x, "tried", 308, 50, 50, 50);
         exactly(x, "tried", 9999, 50, 10, 100);
+        exactly(x, "tried", 9885, 50, 40, 71);
+        exactly(x, "tried", 9999, 50, 40, 72);
         exactly(x, "chance", 9999, 47, 40, 60);
         exactly(x, "place", 0, 50, 40, 60);
         exactly(x, "place", 9999, 51, 40, 60);
@@ -118,6 +127,19 @@ public final class ProofTest {
         x.tell(2, 0, 170);
         exactly(x, "towns", 2, 50, 40, 60);
         exactly(x, "marks", 1, 50, 40, 60);
+        StonesOfWeight y = Due.stones(50, 70);
+        y.tell(0, 7, 1);
+        y.tell(0, 4, 3);
+        exactly(y, "towns", 1, 50, 40, 60);
+        exactly(y, "marks", 1, 50, 40, 60);
+        placeBehindOthers();
+    }
+
+    private static void placeBehindOthers() {
+        StonesOfWeight x = Due.stones(100, 150);
+        for (int k = 0; k < 6; k++) {
+            exactly(x, "place", k, x.peak(10, 60, k), 10, 60);
+        }
     }
 
     private static void withoutStones() {

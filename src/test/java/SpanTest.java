@@ -61,6 +61,7 @@ public final class SpanTest {
         StonesOfWeight x = Due.stones(100, 200, 300);
         x.tell(1, 7, 5);
         int[] many = {3, 1, 2};
+        x.tell(1, 7, 1);
         for (int marks = 0; marks < 3; marks++) {
             x.choose(63, 31, -3000, 1900, marks);
             Due.is("marks " + marks, x.count(1), many[marks]);
@@ -88,10 +89,29 @@ public final class SpanTest {
         spans(x, 1, 940, 940);
         Due.wear(x, "more 500;if lead>50:stop;more 1;");
         spans(x, 0, 1350, 1350);
+        manyLines();
         Due.is("no such STONE", x.span(2, 0), -1);
         Due.is("no such STONE", x.span(-1, 0), -1);
         Due.is("another what", x.span(0, 3), -1);
         Due.is("another what", x.span(0, -1), -1);
+    }
+
+    /** All but one of fifteen LINES hold for a MARK, and the last, of four TESTS, for those below 14. */
+    private static void manyLines() {
+        StonesOfWeight x = Due.stones(10000);
+        StringBuilder text = new StringBuilder();
+        for (int line = 0; line < 15; line++) {
+            text.append("if not mark=").append(line + 1).append(":more ").append(line + 1).append(";");
+        }
+        text.append("if chips=0 and lead=0 and mark<15 and not mark=14:less 100 to 200;");
+        Due.is("sixteen LINES", Due.wear(x, text.toString()), 16);
+        spans(x, 0, 10000 + 10 * (120 - 200), 10000 + 10 * (120 - 100));
+        for (int mark = 1; mark <= 15; mark++) {
+            x.tell(0, 7, mark);
+            int all = 120 - mark;
+            boolean last = mark < 14;
+            spans(x, 0, 10000 + 10 * (last ? all - 200 : all), 10000 + 10 * (last ? all - 100 : all));
+        }
     }
 
     /** Each key by each sign, and by not, at the value of the FACT itself. */

@@ -112,6 +112,12 @@ public final class TextTest {
         wrong(false, "stop\u00e9;", 1, 4);
         wrong(false, "stop\u0000;", 1, 4);
         wrong(false, "ifage>1:stop;", 1, 0);
+        wrong(false, "stopz;", 1, 0);
+        wrong(false, "astop;", 1, 0);
+        wrong(false, "stop{;", 1, 4);
+        wrong(false, "stop`;", 1, 4);
+        wrong(false, "more 5/;", 1, 6);
+        wrong(false, "more 0;more 9?;", 1, 13);
         wrong(false, "if age>x:stop;", 1, 7);
         wrong(false, "if age>:stop;", 1, 7);
         wrong(false, "if age>>1:stop;", 1, 7);

@@ -73,6 +73,11 @@ public final class UnitTest {
         Due.is("50 alone", x.peak(49, 51, 1), -1);
         Due.is("the ends count", x.peak(51, 52, 0), 51);
         Due.is("the ends count", x.peak(48, 49, 0), 49);
+        // One STONE of 100: by 48 off by 4, by 49 2, by 50 0, by 51 2: UNITS rise to 50 and fall behind it.
+        StonesOfWeight y = Due.stones(100);
+        Due.is("33 and 50 alone", y.peak(29, 60, 0), 50);
+        Due.is("33 and 50 alone", y.peak(29, 60, 1), 33);
+        Due.is("33 and 50 alone", y.peak(29, 60, 2), -1);
         for (int[] w : WRONG) {
             Due.is("peak of other numbers", x.peak(w[0], w[1], 0), -1);
         }
@@ -103,6 +108,11 @@ public final class UnitTest {
         // Of 10 .. 13 for 130: 10 and 13 are not off; v is 13, u the greatest below it.
         Due.is("alike: the greatest v, then u", Due.stones(130).pair(10, 13), 130012);
         Due.is("alike: v 13 rather than u 12", Due.stones(120, 130).pair(10, 13), 130012);
+        // By 10 and 12, of 98: 2 off each, 2 / 12 is less than 2 / 10; by 11 1 off: 1 / 11. Of 104: 4, 5, 4.
+        // (11, 12): 2 - 4 / 11 - 16 / 12; (10, 11): 2 - 4 / 11 - 16 / 10; (10, 12): 2 - 8 / 12 - 16 / 12.
+        Due.is("off by all", Due.stones(98, 104).pair(10, 12), 120011);
+        // 97 by 10: 3, 11: 2, 12: 1; 103 by 10: 3, 11: 4, 12: 5: 10 takes 103, 12 takes 97.
+        Due.is("each by its own", Due.stones(97, 103).pair(10, 12), 120010);
         x.choose(0, 31, 0, 0, 0);
         Due.is("none is CHOSEN", x.pair(90, 110), -1);
         Due.is("no STONES", new StonesOfWeight().pair(90, 110), -1);
