@@ -799,7 +799,7 @@ public final class StonesOfWeight {
 
         private boolean readLine(int line) {
             rules.clearTests(line);
-            if (isWord("if") && !readTests(line)) {
+            if (wordIn("if") == 0 && !readTests(line)) {
                 return false;
             }
             return readDeed(line) && pass(';');
@@ -816,12 +816,12 @@ public final class StonesOfWeight {
                     return false;
                 }
                 tests++;
-            } while (isWord("and") && tests < TAPE);
+            } while (wordIn("and") == 0 && tests < TAPE);
             return pass(':');
         }
 
         private boolean readTest(int line) {
-            boolean not = isWord("not");
+            boolean not = wordIn("not") == 0;
             if (not) {
                 advance();
             }
@@ -863,7 +863,7 @@ public final class StonesOfWeight {
             int from = number();
             int to = from;
             advance();
-            if (isWord("to")) {
+            if (wordIn("to") == 0) {
                 advance();
                 if (kind != NUMBER) {
                     return refuse();
@@ -903,10 +903,6 @@ public final class StonesOfWeight {
 
         private boolean isSign(int sign) {
             return kind == SIGN && tape.byteAt(start) == sign;
-        }
-
-        private boolean isWord(String word) {
-            return wordIn(word) == 0;
         }
 
         /** Which word of a list, with blanks between them, the token is. */
@@ -1322,6 +1318,7 @@ public final class StonesOfWeight {
         private int from = LEAST_UNIT;
         private int to = LEAST_UNIT;
         private final int[] scores = new int[REACH + 1];
+        private final int[] scoresBeside = new int[REACH + 1];
         private final int[] peaks = new int[REACH + 1];
         private int peakCount = 0;
         private final int[] offs = new int[(PAIR_REACH + 1) * STONES];
@@ -1368,7 +1365,11 @@ public final class StonesOfWeight {
             }
             int low = pile.low[i];
             int high = pile.high[i];
-            return low == high ? 0 : Math.abs(bestIf(pile, i, low) - bestIf(pile, i, high));
+            if (low == high) {
+                return 0;
+            }
+            setAside(pile, i);
+            return Math.abs(bestIf(pile, i, low) - bestIf(pile, i, high));
         }
 
         long sumOfTwo(Pile pile, int u, int v) {
@@ -1437,13 +1438,18 @@ public final class StonesOfWeight {
             return better;
         }
 
-        /** One stone's off alone changes, so each score is known but for that. */
+        /** One stone's off alone changes with its span, so the scores without it serve for any. */
+        private void setAside(Pile pile, int i) {
+            for (int unit = from; unit <= to; unit++) {
+                scoresBeside[unit - from] = scores[unit - from] + 4 * pile.offOf(i, unit);
+            }
+        }
+
         private int bestIf(Pile pile, int i, int point) {
             int best = from;
             long most = 0;
             for (int unit = from; unit <= to; unit++) {
-                int changed = pile.offOf(i, unit) - pile.offIf(i, point, unit);
-                long score = inReach(unit) ? scores[unit - from] + 4 * changed : 0;
+                long score = scoresBeside[unit - from] - 4 * pile.offIf(i, point, unit);
                 if (unit == from || score * best >= most * unit) {
                     best = unit;
                     most = score;
