@@ -35,6 +35,8 @@ public final class ProofTest {
         // By WIDE 65 and more every place of 100 is NEAR: all of it moves on, STONE by STONE, to the last.
         Due.wear(all, "more 0 to 200;");
         Due.is("32 of 32", all.chance(100), 1000000000);
+        all.choose(0, 0, 0, 0, 0);
+        Due.is("none of none, whatever was asked ahead of it", all.chance(100), 1000000000);
         Due.is("no such UNIT", x.chance(9), -1);
         Due.is("no such UNIT", x.chance(2001), -1);
         Due.is("no such UNIT", x.chance(0), -1);
@@ -127,6 +129,7 @@ public final class ProofTest {
         x.tell(2, 0, 170);
         exactly(x, "towns", 2, 50, 40, 60);
         exactly(x, "marks", 1, 50, 40, 60);
+        exactly(Due.stones(50, 100, 150, 200), "chance", 4569, 50, 40, 60);
         StonesOfWeight y = Due.stones(50, 70);
         y.tell(0, 7, 1);
         y.tell(0, 4, 3);

@@ -99,6 +99,7 @@ public final class UnitTest {
         Due.is("pair(90, 110)", x.pair(90, 110), 1070100);
         Due.is("pair(70, 110)", x.pair(70, 110), 1070100);
         Due.is("pair(69, 110)", x.pair(69, 110), -1);
+        Due.is("both ends", Due.stones(70, 110).pair(70, 110), 1100070);
         Due.is("a is b", x.pair(100, 100), -1);
         Due.is("two alone", x.pair(100, 101), 1010100);
         for (int[] w : WRONG) {
