@@ -2,15 +2,23 @@
 final class Due {
     private static int wrong = 0;
     private static int asked = 0;
+    private static int sentences = 0;
+    private static String sentence = "";
 
     private Due() {
+    }
+
+    /** The document's own words that the next answers are about; a wrong answer tells them. */
+    static void sentence(String words) {
+        sentences++;
+        sentence = "[" + words + "] ";
     }
 
     static void is(String call, long got, long want) {
         asked++;
         if (got != want) {
             wrong++;
-            System.out.println(call + " answered " + got + ", due is " + want);
+            System.out.println(sentence + call + " answered " + got + ", due is " + want);
         }
     }
 
@@ -52,7 +60,8 @@ final class Due {
     }
 
     static void finish(String name) {
-        System.out.println(name + ": " + asked + " answers, " + wrong + " not as due");
+        String about = sentences > 0 ? " on " + sentences + " sentences" : "";
+        System.out.println(name + ": " + asked + " answers" + about + ", " + wrong + " not as due");
         if (wrong != 0 || asked == 0) {
             System.exit(1);
         }

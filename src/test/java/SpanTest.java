@@ -116,16 +116,10 @@ public final class SpanTest {
 
     /** Each key by each sign, and by not, at the value of the FACT itself. */
     private static void everyKey() {
-        StonesOfWeight x = new StonesOfWeight();
-        x.stone(1000, 3, 4);
-        x.tell(0, 2, 2);
-        x.tell(0, 3, 200);
-        x.tell(0, 6, 1500);
-        x.tell(0, 7, 17);
-        x.tell(0, 8, 6);
         String[] keys = {"stuff", "chips", "lead", "town", "mark", "owner", "age"};
         int[] values = {3, 2, 200, 4, 17, 6, 500};
         for (int i = 0; i < keys.length; i++) {
+            StonesOfWeight x = withAllFacts();
             for (int by = -1; by <= 1; by++) {
                 int bound = values[i] + by;
                 holds(x, keys[i] + "<" + bound, by > 0);
@@ -133,10 +127,22 @@ public final class SpanTest {
                 holds(x, keys[i] + "=" + bound, by == 0);
             }
         }
+        StonesOfWeight x = withAllFacts();
         holds(x, "stuff=3 and chips=2 and lead=200 and town=4", true);
         holds(x, "stuff=3 and chips=2 and lead=200 and town=5", false);
         holds(x, "stuff=0 and chips=2", false);
         holds(x, "not stuff=0 and not chips=0", true);
+    }
+
+    private static StonesOfWeight withAllFacts() {
+        StonesOfWeight x = new StonesOfWeight();
+        x.stone(1000, 3, 4);
+        x.tell(0, 2, 2);
+        x.tell(0, 3, 200);
+        x.tell(0, 6, 1500);
+        x.tell(0, 7, 17);
+        x.tell(0, 8, 6);
+        return x;
     }
 
     private static void holds(StonesOfWeight x, String test, boolean want) {
