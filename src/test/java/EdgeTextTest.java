@@ -352,6 +352,12 @@ public final class EdgeTextTest {
         Due.sentence("Term 2: 1 the first byte or token with which no text goes on");
         wrong(false, "if age>1 stop; %", 1, 9);
         wrong(false, "if x:stop;if y:stop;", 1, 3);
+        wrong(false, "if age stop;%", 1, 7);
+        wrong(false, "if stop;%", 1, 3);
+        wrong(false, "if age>stop;more x;", 1, 7);
+        wrong(false, "more stop;more x;", 1, 5);
+        wrong(false, "more 1 to stop;more x;", 1, 10);
+        wrong(false, "stop more 1;more x;", 1, 5);
         wrong(false, "stop stop; %", 1, 5);
         wrong(false, "more x;more 12345;", 1, 5);
         wrong(false, "more 12345;more x;", 1, 5);
