@@ -30,6 +30,7 @@ public final class EdgeUnitTest {
         chooseRefuses();
         byRefuses();
         sumRefuses();
+        whateverWasAsked();
         Due.finish("EdgeUnitTest");
     }
 
@@ -437,5 +438,38 @@ public final class EdgeUnitTest {
         Due.is("not in least terms, with u * v below", x.sum(10, 20), 200);
         Due.is("further apart than pairs are", x.sum(10, 2000), 20000);
         Due.is("next to one another", x.sum(1999, 2000), 1999L * 2000 - 4 * 1899L * 2000);
+    }
+
+    /** The first STONE is CHOSEN alone, once from the start and once behind questions about 32. */
+    private static void whateverWasAsked() {
+        Due.sentence("Term 3: of all CHOSEN (of those that are it now, whatever was asked ahead of it)");
+        StonesOfWeight alone = Due.stones(100);
+        StonesOfWeight x = Due.stones(100);
+        for (int i = 1; i < 32; i++) {
+            x.stone(70 + i % 2, 0, 0);
+        }
+        Due.wear(alone, "more 0 to 40;");
+        Due.wear(x, "more 0 to 40;");
+        long[] all = questions(x);
+        for (int i = 1; i < 32; i++) {
+            x.tell(i, 9, 0);
+        }
+        long[] due = questions(alone);
+        long[] got = questions(x);
+        int others = 0;
+        for (int i = 0; i < due.length; i++) {
+            Due.is("question " + i, got[i], due[i]);
+            others += all[i] == due[i] ? 0 : 1;
+        }
+        Due.is("most answers are others by all 32", others > due.length / 2, true);
+        StonesOfWeight y = Due.stones(100, 70);
+        Due.is("a pair for both", y.pair(70, 110), 1000070);
+        y.tell(1, 9, 0);
+        Due.is("a pair for one", y.pair(70, 110), 1100100);
+    }
+
+    private static long[] questions(StonesOfWeight x) {
+        return new long[] {x.score(30), x.best(60, 110), x.peak(60, 110, 0), x.peak(60, 110, 1), x.pair(70, 110),
+            x.sum(70, 71), x.chance(70), x.anew(60, 110), x.worth(0, 60, 110), x.heap(0, 30), x.count(1), x.count(10)};
     }
 }
