@@ -1,3 +1,4 @@
+import java.io.DataInputStream;
 import java.lang.reflect.Constructor;
 import java.lang.reflect.Field;
 import java.lang.reflect.Method;
@@ -28,12 +29,21 @@ public final class FaceTest {
         "\\bthrow\\b", "\\btry\\b", "\\bcatch\\b", "\\bsynchronized\\b", "\\bassert\\b", "->", "::",
         "\\bimport\\b", "\\bpackage\\b", "Exact\\b", "\\bRandom\\b", "\\bThread\\b", "\\bSystem\\.(?!arraycopy)"};
 
+    /** What the class uses of the library, all of it listed in rule 4; what is not here is held against that rule first. */
+    private static final Set<String> LIBRARY = Set.of("java/lang/Object.<init>", "java/lang/Math.min",
+        "java/lang/Math.max", "java/lang/Math.abs", "java/lang/Long.compare", "java/lang/Integer.bitCount",
+        "java/lang/String.length", "java/lang/String.charAt", "java/lang/System.arraycopy");
+
     public static void main(String[] args) throws Exception {
         checkFace();
         for (Class<?> inner : StonesOfWeight.class.getDeclaredClasses()) {
             checkInner(inner);
         }
         checkSource();
+        checkLibrary(StonesOfWeight.class);
+        for (Class<?> inner : StonesOfWeight.class.getDeclaredClasses()) {
+            checkLibrary(inner);
+        }
         Due.finish("FaceTest");
     }
 
@@ -102,6 +112,42 @@ public final class FaceTest {
         }
         for (char sign : source.toCharArray()) {
             Due.is("a sign of the source is 1 to 127", sign >= 1 && sign <= 127, true);
+        }
+    }
+
+    /** Calls as the compiler wrote them down, so that none of a lambda or of joining texts stays unseen either. */
+    private static void checkLibrary(Class<?> type) throws Exception {
+        try (DataInputStream in = new DataInputStream(type.getResourceAsStream(type.getName() + ".class"))) {
+            in.skipNBytes(8);
+            int size = in.readUnsignedShort();
+            int[] tags = new int[size];
+            int[] ones = new int[size];
+            int[] others = new int[size];
+            String[] texts = new String[size];
+            for (int i = 1; i < size; i++) {
+                tags[i] = in.readUnsignedByte();
+                switch (tags[i]) {
+                    case 1 -> texts[i] = in.readUTF();
+                    case 3, 4 -> in.readInt();
+                    case 5, 6 -> {
+                        in.readLong();
+                        i++;
+                    }
+                    case 7, 8, 16, 19, 20 -> ones[i] = in.readUnsignedShort();
+                    case 15 -> in.skipNBytes(3);
+                    default -> {
+                        ones[i] = in.readUnsignedShort();
+                        others[i] = in.readUnsignedShort();
+                    }
+                }
+            }
+            for (int i = 1; i < size; i++) {
+                Due.is(type + " calls nothing that is bound while it runs", tags[i] == 17 || tags[i] == 18, false);
+                if (tags[i] == 10 || tags[i] == 11) {
+                    String call = texts[ones[ones[i]]] + "." + texts[ones[others[i]]];
+                    Due.is("rule 4 has " + call, call.startsWith("StonesOfWeight") || LIBRARY.contains(call), true);
+                }
+            }
         }
     }
 
