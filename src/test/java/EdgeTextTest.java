@@ -399,6 +399,15 @@ public final class EdgeTextTest {
         wrong(false, "if age>1 and age>1 and age>1 and age>1 and  not age>1:stop;", 3, 44);
         wrong(true, "if many>1 and many>1 and many>1 and many>1 and many>1 and many>1:sure;", 3, 47);
         wrong(false, "stop;if age>1 and age>1 and age>1 and age>1 and age>1:stop;", 3, 48);
+        // On the 16th LINE, the last one that there is room for, and on one beyond it.
+        wrong(false, "stop;".repeat(15) + "if age>1 and age>1 and age>1 and age>1 and age>1:stop;", 3, 118);
+        wrong(true, "sure;".repeat(15) + "if many>1 and many>1 and many>1 and many>1 and not many>1:sure;", 3, 122);
+        wrong(false, "stop;".repeat(16) + "if age>1 and age>1 and age>1 and age>1 and age>1:stop;", 3, 80);
+        sound(false, "stop;".repeat(15) + "if age>1 and age>1 and age>1 and age>1:stop;", 16);
+        // As many as the tape can have.
+        wrong(false, "if age>1" + "and age>1".repeat(54) + ":stop;", 3, 39);
+        wrong(false, "stop;".repeat(15) + "if age>1" + "and age>1".repeat(45) + ":stop;", 3, 114);
+        wrong(true, "sure;".repeat(100), 3, 80);
     }
 
     private static void firstOfTheOthers() {

@@ -145,7 +145,7 @@ public final class FaceTest {
                 Due.is(type + " calls nothing that is bound while it runs", tags[i] == 17 || tags[i] == 18, false);
                 if (tags[i] == 10 || tags[i] == 11) {
                     String call = texts[ones[ones[i]]] + "." + texts[ones[others[i]]];
-                    Due.is("rule 4 has " + call, call.startsWith("StonesOfWeight") || LIBRARY.contains(call), true);
+                    Due.is("LIBRARY has " + call, call.startsWith("StonesOfWeight") || LIBRARY.contains(call), true);
                 }
             }
         }
